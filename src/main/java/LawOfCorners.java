@@ -47,6 +47,7 @@ public final class LawOfCorners {
     private static final int MOST_INFORMERS = 8;
     private static final int MOST_LOTS = 20;
     private static final int DRAWS = 20;
+    private static final int WITHOUT_SIGN = 0x7fffffff;
 
     private static final int ASK_HOME = 0;
     private static final int ASK_FINE = 1;
@@ -430,7 +431,7 @@ public final class LawOfCorners {
             stroll.begin();
             for (int draw = 0; draw < DRAWS; draw++) {
                 seed = seed * 1664525 + 1013904223;
-                stroll.go((seed & Integer.MAX_VALUE) / 256 % WAYS);
+                stroll.go((seed & WITHOUT_SIGN) / 256 % WAYS);
             }
             stroll.end();
             all += stroll.answer(what == 0 ? Stroll.WORDS : Stroll.CORNERS);
@@ -1074,7 +1075,7 @@ public final class LawOfCorners {
     private static final class Routes {
         // More than the steps of any walk that passes no stand twice.
         private static final int CORNER_PRICE = 1000;
-        private static final int FAR = Integer.MAX_VALUE;
+        private static final int FAR = 0x7fffffff;
         // Far above what any town needs: each stand is mended fewer times than there are stands.
         private static final int MOST_TURNS = 1000000;
 

@@ -98,6 +98,8 @@ public final class PromiseTest {
         due("square(5, 0) stays", x.square(5, 0), 4);
         due("fine 0", x.count(1), 0);
         due("all to one", tell(x, "vw3434;vs3535;"), 2);
+        due("what was told before is forgotten", tell(x, "vw3"), -1003);
+        due("what was told before is forgotten", tell(x, "vw3333"), -1006);
     }
 
     private static void square() {
@@ -303,6 +305,7 @@ public final class PromiseTest {
         due("words(36, -1)", x.words(36, -1), -1);
         due("words(0, -1)", x.words(0, -1), -4);
         due("words(0, 21)", x.words(0, 21), -6);
+        due("words(0, 20)", made("vw0135;").words(0, 20), 1);
         due("words(6, 21)", x.words(6, 21), -6);
     }
 
@@ -313,6 +316,7 @@ public final class PromiseTest {
             due("unheard(0, " + n + ")", x.unheard(0, n), want[n]);
         }
         due("unheard(1, 5)", x.unheard(1, 5), -9);
+        due("words(1, 0) behind it", x.words(1, 0), 1);
         due("unheard(4, 1)", x.unheard(4, 1), 2);
         due("unheard(6, 5)", x.unheard(6, 5), -9);
         x = made(CORRIDOR + "kn01;kn02;kn03;");
@@ -344,6 +348,8 @@ public final class PromiseTest {
         due("talk(5, 40): a word a step", x.talk(5, 40), 39);
         due("talk(4, 40)", x.talk(4, 40), 39);
         due("talk(3, 40)", x.talk(3, 40), 39);
+        due("in 40 steps", made(CORRIDOR + "kn00;vc0102;").talk(0, 40), 40);
+        due("not in 40 steps", made(CORRIDOR + "vn0001;vc0203;").talk(0, 40), -9);
         due("talk(6, 1)", x.talk(6, 1), -9);
         due("talk(36, 0)", x.talk(36, 0), -1);
         due("talk(0, 0)", x.talk(0, 0), -4);
@@ -588,6 +594,7 @@ public final class PromiseTest {
     }
 
     private static void count() {
+        due("a crescent on 0, a market on 35", made("kc00;km35;").count(6), 2);
         LawOfCorners x = made("h35;kw00;kt01;kn02;kc03;km04;kc05;f7;b8;");
         int[] want = {35, 7, 8, 34, 2, 11, 3, 0, 0, -9, -9};
         // Heard: by the turret on 1 0, 1, 2, 3, 6, 7, 8, 13; by the niche on 2 1, 2, 3, 8.
