@@ -306,7 +306,7 @@ public final class LawOfCorners {
         for (int square = 0; square < SQUARES; square++) {
             hearers.put(square, town.heardBy(square));
         }
-        int most = NONE;
+        int most = 0;
         int best = NONE;
         for (int square = 0; square < SQUARES; square++) {
             if (square == town.home() || !town.canBe(square)) {
@@ -318,7 +318,7 @@ public final class LawOfCorners {
                 best = square;
             }
         }
-        return what == 0 ? best : most;
+        return what == 0 || best == NONE ? best : most;
     }
 
     public int enough() {

@@ -405,6 +405,19 @@ public final class PromiseTest {
         x.turnTo(35, 1);
         due("newNiche(0) of none", x.newNiche(0), -9);
         due("newNiche(1) of none", x.newNiche(1), -9);
+        String[] noneMore = {"h35;vt0134;ks00;", "h35;vw0034;ks20;kt21;", "h35;vw0034;kn20;", "h35;vt0034;vm0001;kc02;"};
+        for (String one : noneMore) {
+            due("newNiche(0), none more heard: " + one, made(one).newNiche(0), -9);
+            due("newNiche(1), none more heard: " + one, made(one).newNiche(1), -9);
+        }
+        // 20 makes nothing more heard, 30 makes 24 and itself and 31 so.
+        x = made("h35;vw0034;ks20;kt21;ks30;");
+        due("newNiche(0), one makes more heard", x.newNiche(0), 30);
+        due("newNiche(1), one makes more heard", x.newNiche(1), 3);
+        // Only 0 itself is not heard yet.
+        x = made("h35;vw0034;ks00;kn07;");
+        due("newNiche(0), one more", x.newNiche(0), 0);
+        due("newNiche(1), one more", x.newNiche(1), 1);
         due("newNiche(2)", x.newNiche(2), -2);
         due("newNiche(-1)", x.newNiche(-1), -2);
     }
