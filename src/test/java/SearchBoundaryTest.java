@@ -352,6 +352,9 @@ public final class SearchBoundaryTest {
         due("no way", x.roundOff(0, 12), -9);
         due("from a WALL", x.roundOff(6, 0), -9);
         due("to a WALL", x.roundOff(0, 6), -9);
+        due("the first SQUARE: 0 or 7", new LawOfCorners().roundOff(1, 6), 0);
+        due("the last SQUARE: 28 or 35", new LawOfCorners().roundOff(34, 29), 28);
+        due("the last SQUARE alone", made("kw28;").roundOff(34, 29), 35);
         due("HOME itself can be the one", made("h05;").roundOff(0, 35), 5);
     }
 
@@ -473,6 +476,92 @@ public final class SearchBoundaryTest {
         due("a TURRET's", made("kt35;").yards(35), -9);
     }
 
+    /** The same corner of the town at 0 and, turned about, at 35: on it the least and the greatest SQUARE are gone over. */
+    private static void firstAndLastSquare() {
+        Checks.sentence("SQUARES 0 .. 35");
+        String[] towns = {"h06;vw0305;vw0735;", "h29;vw0028;vw3032;"};
+        for (int turned = 0; turned < 2; turned++) {
+            LawOfCorners x = made(towns[turned]);
+            // One goes from 6 up to 0 and on by 1 and 2.
+            int six = turned == 0 ? 6 : 29;
+            int nought = turned == 0 ? 0 : 35;
+            int one = turned == 0 ? 1 : 34;
+            int two = turned == 0 ? 2 : 33;
+            int[] words = {1, 2, 2, 3, 3};
+            for (int n = 0; n < words.length; n++) {
+                due("words(" + six + ", " + n + ")", x.words(six, n), words[n]);
+                due("unheard(" + six + ", " + n + ")", x.unheard(six, n), words[n]);
+            }
+            due("talk to it", x.talk(six, 2), 1);
+            due("talk that ends on it", x.talk(two, 3), 2);
+            due("talk that it cuts", x.talk(one, 3), -9);
+            due("talk on it alone", x.talk(nought, 1), 0);
+            ofCorners(x, six, two, 1, 3, turned == 0 ? 0 : 3);
+            ofCorners(x, two, six, 1, 3, turned == 0 ? 1 : 2);
+            due("roundOff", x.roundOff(six, two), nought);
+            due("yards", x.yards(two), 2);
+            due("yards on it", x.yards(nought), 0);
+            due("said {1, 1}", Checks.withRow(x, 1, 1).said(0), 4);
+            due("said {1, 0, 1}", Checks.withRow(x, 1, 0, 1).said(0), 4);
+            // 6, 0, 1, 2; and 1, 0, 1, 2 as well as 1, 2, 1, 0.
+            due("said {1, 0, 1, 1}", Checks.withRow(x, 1, 0, 1, 1).said(0), 2);
+            due("a MARKET there", x.turnTo(nought, 5), 0);
+            due("said {1, 2, 1}", Checks.withRow(x, 1, 2, 1).said(0), 2);
+            due("words", x.words(six, 2), 4);
+            due("talk", x.talk(six, 5), 3);
+            due("an informer beside 6, who hears 0", x.turnTo(turned == 0 ? 12 : 23, 4), 1);
+            due("heard", x.heard(nought), 1);
+            due("it is heard: unheard on it", x.unheard(nought, 5), -9);
+            due("it is heard, and no corner: unheard from 1", x.unheard(one, 0), 1);
+            due("it is heard, and no corner: unheard from 1", x.unheard(one, 20), 2);
+            due("fines on it", x.fines(nought, nought), 4);
+            due("fines to it", x.fines(two, nought), 4);
+            due("fines over it", x.fines(six, two), 6);
+            due("a NICHE there", x.turnTo(nought, 3), 5);
+            due("said {0}", Checks.withRow(x, 0).said(1), nought);
+            due("enough", x.enough(), 3);
+        }
+    }
+
+    private static void eachByItself() {
+        Checks.sentence("Nothing is promised beyond the answers and state changes described above");
+        LawOfCorners x = made(Checks.CORRIDOR + "kt08;");
+        for (int again = 0; again < 2; again++) {
+            due("words(1, 5)", x.words(1, 5), 5);
+            due("unheard(1, 5)", x.unheard(1, 5), -9);
+            due("talk(1, 5)", x.talk(1, 5), 4);
+            due("unheard(0, 5)", x.unheard(0, 5), 2);
+            due("fines(0, 5)", x.fines(0, 5), 6);
+            ofCorners(x, 0, 5, 0, 5, 2);
+            due("roundOff(0, 5)", x.roundOff(0, 5), -9);
+            due("fines(5, 0)", x.fines(5, 0), 6);
+            due("newNiche(0)", x.newNiche(0), 5);
+            due("enough()", x.enough(), 1);
+            due("quiet()", x.quiet(), 5);
+            due("steps(0, 5)", x.steps(0, 5), 5);
+            due("meet(0, 5, 1)", x.meet(0, 5, 1), 2);
+        }
+        due("the informer goes", x.turnTo(8, 1), 4);
+        due("enough() of none", x.enough(), 0);
+        due("quiet() of none", x.quiet(), -9);
+        due("unheard(1, 5)", x.unheard(1, 5), 5);
+        due("fines(0, 5)", x.fines(0, 5), 0);
+        due("newNiche(0)", x.newNiche(0), 1);
+        due("enough() of none", x.enough(), 0);
+        x = made("kn00;kn35;");
+        for (int again = 0; again < 2; again++) {
+            due("newNiche(0)", x.newNiche(0), 8);
+            due("enough() of two, both needed", x.enough(), 3);
+            // One turns at 5, or at 30.
+            ofCorners(x, 0, 35, 1, 10, 2);
+            // One turns at 1 and at 34, where it is heard.
+            due("fines(0, 35)", x.fines(0, 35), 0);
+            due("roundOff(0, 35)", x.roundOff(0, 35), 5);
+        }
+        due("the one on 0 goes", x.turnTo(0, 0), 3);
+        due("enough() of one", x.enough(), 1);
+    }
+
     public static void main(String[] args) {
         steps();
         corners();
@@ -487,6 +576,8 @@ public final class SearchBoundaryTest {
         enough();
         quiet();
         yards();
+        firstAndLastSquare();
+        eachByItself();
         Checks.end("SearchBoundaryTest");
     }
 }

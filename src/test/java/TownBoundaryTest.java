@@ -158,6 +158,10 @@ public final class TownBoundaryTest {
             }
         }
         dueTown("f1;".repeat(31) + "b1", -1095);
+        LawOfCorners x = Checks.made("f1;f1;");
+        due("what was told before is no more", Checks.tell(x, "f2"), -1002);
+        due("what was told before is no more", Checks.tell(x, "f"), -1001);
+        due("what was told before is no more", Checks.tell(x, ""), -1000);
     }
 
     private static void numbersOutOfRange() {

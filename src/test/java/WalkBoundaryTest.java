@@ -1,3 +1,5 @@
+import java.math.BigInteger;
+
 /** The boundary cases of walks by the row: where they are cut, what they cost; judged, said and drawn by lot. */
 public final class WalkBoundaryTest {
     private static final int MIN = Integer.MIN_VALUE;
@@ -169,6 +171,10 @@ public final class WalkBoundaryTest {
         x.turnTo(2, 3);
         due("no word on a niche", walked(x, 5, 2, 1), 0);
         due("none hears", walked(new LawOfCorners(), 5, 2, 2), 0);
+        x = Checks.made("kt01;");
+        due("on 0", walked(x, 5), 2);
+        x = Checks.made("h35;kt34;");
+        due("on 35", walked(x, 5), 2);
         x = Checks.made("vm0035;h14;");
         for (int s : new int[] {2, 7, 9, 12, 16, 19, 21, 26, 8, 13, 20}) {
             x.turnTo(s, 4);
@@ -259,6 +265,17 @@ public final class WalkBoundaryTest {
         due("row(9)", x.row(9), 1);
         due("clear() of one", x.clear(), 1);
         due("clear() is no refusal", x.count(13), 1);
+        Checks.withRow(x, 9, 9, 9);
+        Checks.withRow(x, 2);
+        due("what it had is no more: walk(0)", x.walk(0), -9);
+        due("what it had is no more: said(0)", x.said(0), 0);
+        due("what it had is no more: judge()", x.judge(), -9);
+        Checks.withRow(x, 1, 1, 1);
+        Checks.withRow(x, 1);
+        due("what it had is no more: said(0)", x.said(0), 36);
+        Checks.withRow(x, 2, 2, 2);
+        Checks.withRow(x, 2);
+        due("what it had is no more: walk(1)", x.walk(1), 1);
     }
 
     private static void says(String town, int many, int least, int... row) {
@@ -352,6 +369,28 @@ public final class WalkBoundaryTest {
         return kind == 'm' ? 2 : kind == 's' || kind == 'c' ? 1 : 0;
     }
 
+    /** HOME and one square beside it: one goes to and fro, so that all but the first and the last are corners. */
+    private static void firstDraws() {
+        int[] seeds = {0, 1, -1, MIN, MAX};
+        int[] squares = {8, 13, 15, 20};
+        for (int seed : seeds) {
+            for (int way = 0; way < 4; way++) {
+                int gone = 0;
+                BigInteger z = BigInteger.valueOf(seed);
+                for (int draw = 0; draw < 20; draw++) {
+                    BigInteger product = z.multiply(BigInteger.valueOf(1664525)).add(BigInteger.valueOf(1013904223));
+                    z = BigInteger.valueOf(product.intValue());
+                    int drawn = z.and(BigInteger.valueOf(MAX)).intValue() / 256 % 4;
+                    boolean there = gone % 2 == 1;
+                    gone += drawn == (there ? 3 - way : way) ? 1 : 0;
+                }
+                LawOfCorners x = Checks.made("h14;vw0013;vw1535;" + (squares[way] == 8 ? "ks08;" : "ks" + squares[way] + ";"));
+                due("lots(1, " + seed + ", 0), a square by " + way, x.lots(1, seed, 0), Math.min(gone + 1, 2));
+                due("lots(1, " + seed + ", 1), a square by " + way, x.lots(1, seed, 1), Math.max(gone - 1, 0));
+            }
+        }
+    }
+
     private static void lots() {
         Checks.sentence("LOTS with a seed z: n walks (1 .. 20) from HOME, each 20 DRAWS below 4");
         String plain = "s".repeat(36);
@@ -373,6 +412,15 @@ public final class WalkBoundaryTest {
                 }
             }
         }
+        Checks.sentence("z becomes z times 1664525 and 1013904223 (an int); (z without its sign's bit by 256, cut) modulo m");
+        // Only 0 and the square below it: of the draws those of 3 and 0 by turns are gone.
+        for (int seed : seeds) {
+            int[] want = lotsBy(20, seed, "swwwwws" + "w".repeat(29), 0);
+            LawOfCorners x = Checks.made("vw0135;ks06;");
+            due("lots(20, " + seed + ", 0) of two squares", x.lots(20, seed, 0), want[0]);
+            due("lots(20, " + seed + ", 1) of two squares", x.lots(20, seed, 1), want[1]);
+        }
+        firstDraws();
         Checks.sentence("(a WAY; one that can not be gone: stays, no turn)");
         LawOfCorners x = Checks.made("vw0135;");
         for (int n = 1; n <= 20; n++) {
