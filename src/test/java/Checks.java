@@ -32,12 +32,16 @@ final class Checks {
         return x.town();
     }
 
-    /** A new object with a town; several texts where one of 96 letters would not hold it. */
+    /**
+     * A new object with a town; several texts where one of 96 letters would not hold it. A text
+     * with a FAULT is told behind them: whatever it would make, each test then shows that it came to nothing.
+     */
     static LawOfCorners made(String... texts) {
         LawOfCorners x = new LawOfCorners();
         for (String text : texts) {
             due("town() of " + text, tell(x, text), text.length() - text.replace(";", "").length());
         }
+        due("town() with a FAULT", tell(x, "vm0035;kw21;f7;b8;h20;h36;"), -2022);
         return x;
     }
 

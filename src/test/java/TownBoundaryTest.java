@@ -359,6 +359,10 @@ public final class TownBoundaryTest {
         dueCounts("vm0035;", 36, 0, 0, 36);
         dueCounts("vc0017;vm1835;", 36, 0, 0, 36);
         dueCounts("kn00;kt35;", 35, 2, 9, 0);
+        dueCounts("kc35;", 36, 0, 0, 1);
+        dueCounts("km00;", 36, 0, 0, 1);
+        dueCounts("kc00;km35;", 36, 0, 0, 2);
+        dueCounts("vc0103;vm1012;kw02;kt11;kn00;", 34, 2, 11, 4);
         LawOfCorners x = new LawOfCorners();
         for (int many = 1; many <= 20; many++) {
             x.row(0);
