@@ -1,40 +1,25 @@
 /** One method for each promise; the answers are worked out by hand from ../shared/DOC.md. */
 public final class PromiseTest {
-    private static final String CORRIDOR = "vw0635;";
-    private static int wrong = 0;
-    private static int promise = 0;
+    private static final String CORRIDOR = Checks.CORRIDOR;
 
     private static void due(String call, int got, int want) {
-        if (got != want) {
-            wrong++;
-            System.out.println("promise " + promise + ": " + call + " answered " + got + ", due is " + want);
-        }
+        Checks.due(call, got, want);
     }
 
     private static LawOfCorners made(String text) {
-        LawOfCorners x = new LawOfCorners();
-        if (!text.isEmpty() && tell(x, text) < 0) {
-            wrong++;
-            System.out.println("promise " + promise + ": no town: " + text);
-        }
-        return x;
+        return Checks.made(text);
     }
 
     private static int tell(LawOfCorners x, String text) {
-        for (int i = 0; i < text.length(); i++) {
-            x.letter(text.charAt(i));
-        }
-        return x.town();
+        return Checks.tell(x, text);
     }
 
     private static void tellRow(LawOfCorners x, int... numbers) {
-        x.clear();
-        for (int number : numbers) {
-            x.row(number);
-        }
+        Checks.withRow(x, numbers);
     }
 
     private static void newObject() {
+        Checks.sentence("All STREETS, HOME 0.");
         LawOfCorners x = new LawOfCorners();
         for (int s = 0; s < 36; s++) {
             due("square(" + s + ", 0)", x.square(s, 0), 0);
@@ -47,6 +32,7 @@ public final class PromiseTest {
     }
 
     private static void letter() {
+        Checks.sentence("A letter (0 .. 255) comes: how many there are. -4; -6 (255; 96, too).");
         LawOfCorners x = new LawOfCorners();
         due("letter(-1)", x.letter(-1), -4);
         due("letter(256)", x.letter(256), -6);
@@ -66,6 +52,7 @@ public final class PromiseTest {
     }
 
     private static void town() {
+        Checks.sentence("The letters become a TOWN, and are no more (with a FAULT neither): how many STATEMENTS; the FAULT (nothing is counted).");
         String[] texts = {"", "k", "kw", "kw0", "kw00", "K", "kx00;", "kw0a;", "kw00:", "vw0000", "vw00001;", "h1;",
             "h001;", "f;", "f12;", "b;", "b1", "f1;;", "f1; f2;", "kw99;b", "ks36;", "vs0036;", "vs0504;", "h36;",
             "b0;", "kw00;", "vw0035;", "f3;kt00;", "kw01;h01;", "h01;kw00;kw01;", "h07;vt0007;", "f1;b0;b0;"};
@@ -103,6 +90,7 @@ public final class PromiseTest {
     }
 
     private static void square() {
+        Checks.sentence("Of a SQUARE: 0 KIND (0 s, 1 w, 2 c, 3 n, 4 t, 5 m), 1 whether one can be there, 2 WORDS, 3 how far INFORMERS hear (-9), 4 whether a turn is a CORNER. -1; -2.");
         LawOfCorners x = made("kw01;kc02;kn03;kt04;km05;");
         int[][] want = {{0, 1, 1, -9, 1}, {1, 0, 0, -9, 1}, {2, 1, 1, -9, 0}, {3, 1, 0, 1, 1}, {4, 0, 0, 2, 1}, {5, 1, 2, -9, 0}};
         for (int s = 0; s < 6; s++) {
@@ -119,6 +107,7 @@ public final class PromiseTest {
     }
 
     private static void turnTo() {
+        Checks.sentence("KIND becomes another one: what it was. -1; -2; -3 one could not be on HOME.");
         LawOfCorners x = new LawOfCorners();
         due("turnTo(0, 5)", x.turnTo(0, 5), 0);
         due("turnTo(0, 4)", x.turnTo(0, 4), -3);
@@ -135,6 +124,7 @@ public final class PromiseTest {
     }
 
     private static void set() {
+        Checks.sentence("HOME (what 0), FINE (1), BREATH (2) becomes v: what it was. -2; -1 no SQUARE; -4; -6 (9; 9); -3 one can not be there.");
         LawOfCorners x = made("kw01;");
         due("set(0, 35)", x.set(0, 35), 0);
         due("set(0, 1)", x.set(0, 1), -3);
@@ -160,6 +150,7 @@ public final class PromiseTest {
     }
 
     private static void heard() {
+        Checks.sentence("HEARD by. -1.");
         LawOfCorners x = made("kt14;kn15;");
         int[] squares = {14, 15, 2, 3, 16, 17, 0, 21, 28, 26, 7, 9};
         int[] want = {2, 2, 1, 0, 2, 0, 0, 2, 0, 1, 1, 2};
@@ -179,6 +170,7 @@ public final class PromiseTest {
     }
 
     private static void walk() {
+        Checks.sentence("A WALK by the ROW: the first that can not be (what 0; -9), the SQUARE at the end (1), words (2), CORNERS (3), CUTS (4), FINES (5), the longest run (6) (the ROW stays). -2; -3 one of it is no WAY.");
         LawOfCorners x = made(CORRIDOR + "kt08;");
         walks(x, new int[] {}, -9, 0, 1, 0, 0, 0, 1);
         walks(x, new int[] {2, 2, 2, 2, 2}, -9, 5, 6, 0, 1, 6, 6);
@@ -203,6 +195,7 @@ public final class PromiseTest {
     }
 
     private static void steps() {
+        Checks.sentence("STEPS; -9. -1 either.");
         LawOfCorners x = made(CORRIDOR + "ks07;ks09;ks13;ks15;ks14;kw02;");
         due("steps(0, 0)", x.steps(0, 0), 0);
         due("steps(0, 5)", x.steps(0, 5), 9);
@@ -221,6 +214,7 @@ public final class PromiseTest {
     }
 
     private static void corners() {
+        Checks.sentence("Fewest CORNERS (what 0), STEPS by these (1), the first WAY (2; -9 none); -9. -1 either; -2.");
         // A short way round the wall on 8 by 1, 2, 3; a long one by 13, 19, 20, 21, 15.
         LawOfCorners x = made("h07;vw0006;vw0835;vs0103;ks09;ks13;vs1921;ks15;");
         due("steps(7, 9)", x.steps(7, 9), 4);
@@ -242,6 +236,7 @@ public final class PromiseTest {
     }
 
     private static void fines() {
+        Checks.sentence("Fewest FINES; -9. -1 either.");
         LawOfCorners x = made(CORRIDOR + "kt08;ks06;");
         due("fines(0, 5)", x.fines(0, 5), 6);
         due("fines(0, 0)", x.fines(0, 0), 0);
@@ -263,6 +258,7 @@ public final class PromiseTest {
     }
 
     private static void straight() {
+        Checks.sentence("STRAIGHT: how many SQUARES. -1; -2.");
         LawOfCorners x = made("kw03;kn19;");
         due("straight(0, 2)", x.straight(0, 2), 2);
         due("straight(0, 3)", x.straight(0, 3), 5);
@@ -276,6 +272,7 @@ public final class PromiseTest {
     }
 
     private static void longest() {
+        Checks.sentence("STRAIGHT: the longest (what 0; -9 none can be on any), from which SQUARE (1; -9). -2.");
         LawOfCorners x = made("h07;vw0005;");
         due("longest(0)", x.longest(0), 5);
         due("longest(1)", x.longest(1), 6);
@@ -290,6 +287,7 @@ public final class PromiseTest {
     }
 
     private static void words() {
+        Checks.sentence("WORDS in n STEPS; -9 one can not be there. -1; -4; -6 20.");
         LawOfCorners x = made(CORRIDOR);
         int[] want = {1, 2, 3, 4, 5, 6, 6, 7, 8, 9, 10, 10};
         for (int n = 0; n < want.length; n++) {
@@ -310,6 +308,7 @@ public final class PromiseTest {
     }
 
     private static void unheard() {
+        Checks.sentence("WORDS in n STEPS, none HEARD; -9. -1; -4; -6 20.");
         LawOfCorners x = made(CORRIDOR + "kt08;");
         int[] want = {1, 1, 2, 2, 2, 2};
         for (int n = 0; n < want.length; n++) {
@@ -329,6 +328,7 @@ public final class PromiseTest {
     }
 
     private static void talk() {
+        Checks.sentence("A TALK; -9. -1; -4 below 1; -6 40.");
         LawOfCorners x = made(CORRIDOR);
         due("talk(0, 1)", x.talk(0, 1), 0);
         due("talk(0, 6)", x.talk(0, 6), 5);
@@ -357,6 +357,7 @@ public final class PromiseTest {
     }
 
     private static void meet() {
+        Checks.sentence("MEET: MINUTES (what 0), the SQUARE (1); -9. -1 either; -2.");
         LawOfCorners x = made(CORRIDOR + "ks35;");
         due("meet(0, 5, 0)", x.meet(0, 5, 0), 3);
         due("meet(0, 5, 1)", x.meet(0, 5, 1), 2);
@@ -375,6 +376,7 @@ public final class PromiseTest {
     }
 
     private static void roundOff() {
+        Checks.sentence("ROUND OFF; -9. -1 either.");
         LawOfCorners x = made(CORRIDOR + "ks11;");
         due("roundOff(0, 11)", x.roundOff(0, 11), 5);
         due("the square stays", x.square(5, 0), 0);
@@ -389,6 +391,7 @@ public final class PromiseTest {
     }
 
     private static void newNiche() {
+        Checks.sentence("NEW NICHE: the SQUARE (what 0), how many more (1); -9. -2.");
         LawOfCorners x = made(CORRIDOR);
         due("newNiche(0)", x.newNiche(0), 1);
         due("newNiche(1)", x.newNiche(1), 4);
@@ -423,6 +426,7 @@ public final class PromiseTest {
     }
 
     private static void enough() {
+        Checks.sentence("ENOUGH (bits). -3 more than 8 with INFORMERS.");
         due("enough() of none", new LawOfCorners().enough(), 0);
         due("a niche under a turret", made("kn02;kt08;").enough(), 2);
         due("both", made("kn01;kt35;").enough(), 3);
@@ -436,6 +440,7 @@ public final class PromiseTest {
     }
 
     private static void quiet() {
+        Checks.sentence("QUIET; -9.");
         due("quiet() of none heard", new LawOfCorners().quiet(), -9);
         LawOfCorners x = made(CORRIDOR + "kt08;");
         due("quiet()", x.quiet(), 5);
@@ -450,6 +455,7 @@ public final class PromiseTest {
     }
 
     private static void yards() {
+        Checks.sentence("YARDS; -9. -1.");
         LawOfCorners x = made(CORRIDOR);
         due("yards(0) in a corridor", x.yards(0), -9);
         x.turnTo(6, 0);
@@ -473,6 +479,7 @@ public final class PromiseTest {
     }
 
     private static void said() {
+        Checks.sentence("SAID by the ROW (it stays): how many (what 0), the least (1; -9). -2; -3 the ROW has none.");
         LawOfCorners x = made(CORRIDOR);
         says(x, 6, 0, 1, 1, 1);
         says(x, 6, 0, 1, 0, 1);
@@ -497,6 +504,7 @@ public final class PromiseTest {
     }
 
     private static void row() {
+        Checks.sentence("A number more of the ROW (0 .. 9): how many. -4; -6 (9; 20, too).");
         LawOfCorners x = new LawOfCorners();
         due("row(-1)", x.row(-1), -4);
         due("row(10)", x.row(10), -6);
@@ -510,6 +518,7 @@ public final class PromiseTest {
     }
 
     private static void judge() {
+        Checks.sentence("JUDGED; -9 (whichever it answers, the ROW has none then). -3 one of it is no WAY (it stays).");
         LawOfCorners x = made(CORRIDOR);
         due("judge() of none", x.judge(), -9);
         tellRow(x, 2, 2, 0, 3);
@@ -524,6 +533,7 @@ public final class PromiseTest {
     }
 
     private static void clear() {
+        Checks.sentence("The ROW has none then: how many it had.");
         LawOfCorners x = new LawOfCorners();
         due("clear() of none", x.clear(), 0);
         tellRow(x, 1, 2, 3);
@@ -533,6 +543,7 @@ public final class PromiseTest {
     }
 
     private static void lots() {
+        Checks.sentence("LOTS: words (what 0), CORNERS (1). -4; -6 20; -2.");
         // One square alone: no draw can be gone, so each walk says the one word of home.
         LawOfCorners x = made("vw0135;");
         due("lots(7, 99, 0)", x.lots(7, 99, 0), 7);
@@ -572,6 +583,7 @@ public final class PromiseTest {
     }
 
     private static void image() {
+        Checks.sentence("THE IMAGE is taken: HOME.");
         LawOfCorners x = made("h07;f3;b4;kt20;");
         tellRow(x, 1, 2);
         x.letter('k');
@@ -585,6 +597,7 @@ public final class PromiseTest {
     }
 
     private static void on() {
+        Checks.sentence("ON from it: HOME. -3 there is none.");
         LawOfCorners x = new LawOfCorners();
         due("on() of none", x.on(), -3);
         tell(x, "h07;f3;b4;kt20;");
@@ -607,6 +620,7 @@ public final class PromiseTest {
     }
 
     private static void count() {
+        Checks.sentence("0 HOME, 1 FINE, 2 BREATH, 3 SQUARES one can be on, 4 with INFORMERS, 5 HEARD ones, 6 CRESCENTS and MARKETS, 7 in the ROW, 8 letters, 11 .. 16 REFUSALS -1 .. -6. -9 for another what.");
         due("a crescent on 0, a market on 35", made("kc00;km35;").count(6), 2);
         LawOfCorners x = made("h35;kw00;kt01;kn02;kc03;km04;kc05;f7;b8;");
         int[] want = {35, 7, 8, 34, 2, 11, 3, 0, 0, -9, -9};
@@ -634,12 +648,8 @@ public final class PromiseTest {
             PromiseTest::judge, PromiseTest::clear, PromiseTest::lots, PromiseTest::image, PromiseTest::on,
             PromiseTest::count};
         for (Runnable one : promises) {
-            promise++;
             one.run();
         }
-        System.out.println(wrong == 0 ? promise + " promises hold" : wrong + " answers are not as due");
-        if (wrong != 0) {
-            System.exit(1);
-        }
+        Checks.end("PromiseTest");
     }
 }

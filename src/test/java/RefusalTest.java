@@ -139,7 +139,7 @@ public final class RefusalTest {
     }
 
     private static void stateOfTown() {
-        Checks.sentence("-3 STATE: it is not as it must be. .. one could not be on HOME; one can not be there");
+        Checks.sentence("-3 STATE: it is not as it must be. .. -3 one could not be on HOME. .. -3 one can not be there.");
         refuses("turnTo(0, 1)", fresh(3), fresh(3), x -> x.turnTo(0, 1), -3);
         refuses("turnTo(0, 4)", fresh(3), fresh(3), x -> x.turnTo(0, 4), -3);
         refuses("turnTo(8, 1)", busy(3), busy(3), x -> x.turnTo(8, 1), -3);
@@ -228,7 +228,7 @@ public final class RefusalTest {
     }
 
     private static void firstThatFits() {
-        Checks.sentence("the first that fits in the order in which it tells them");
+        Checks.sentence("REFUSALS (the call answers the number, the first that fits in the order in which it tells them; nothing changes but how many there were):");
         refuses("square(36, 5)", x -> x.square(36, 5), -1);
         refuses("square(-1, -1)", x -> x.square(-1, -1), -1);
         refuses("turnTo(36, 6)", x -> x.turnTo(36, 6), -1);

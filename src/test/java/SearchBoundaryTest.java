@@ -13,7 +13,7 @@ public final class SearchBoundaryTest {
     }
 
     private static void steps() {
-        Checks.sentence("From a SQUARE to another one: STEPS; .. -9 no way");
+        Checks.sentence("From a SQUARE to another one: STEPS; fewest CORNERS; fewest FINES .. -9 no way");
         LawOfCorners x = new LawOfCorners();
         for (int s = 0; s < 36; s++) {
             due("steps(" + s + ", " + s + ")", x.steps(s, s), 0);
@@ -295,7 +295,7 @@ public final class SearchBoundaryTest {
     }
 
     private static void meet() {
-        Checks.sentence("MEET: .. one STEP each MINUTE (staying too): the fewest MINUTES till both are on one SQUARE; the SQUARE, of several the least; -9.");
+        Checks.sentence("MEET: two who set out from two SQUARES at once, one STEP each MINUTE (staying too): the fewest MINUTES till both are on one SQUARE; the SQUARE, of several the least; -9.");
         LawOfCorners x = new LawOfCorners();
         for (int s = 0; s < 36; s++) {
             meets(x, s, s, 0, s);

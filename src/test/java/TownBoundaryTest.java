@@ -44,10 +44,43 @@ public final class TownBoundaryTest {
             due("heard(" + s + ")", x.heard(s), 0);
         }
         due("count(0)", x.count(0), 0);
-        Checks.sentence("FINE (0 .. 9 for each word: 2 at first)");
+        Checks.sentence("KINDS of SQUARES (s at first).");
+        due("the STREETS on the row of 0", x.straight(0, 2), 5);
+        due("turnTo(35, 0): what it was", x.turnTo(35, 0), 0);
+        due("one can be on all", x.count(3), 36);
+        due("none hears", x.count(4), 0);
+        Checks.sentence("FINE (0 .. 9 for each word: 2 at first).");
         due("count(1)", x.count(1), 2);
+        due("set(1, 2): what it was", x.set(1, 2), 2);
         Checks.sentence("BREATH (1 .. 9: 5 at first)");
         due("count(2)", x.count(2), 5);
+        due("set(2, 5): what it was", x.set(2, 5), 5);
+        Checks.sentence("HOME (a SQUARE one can be on: 0 at first).");
+        due("set(0, 0): what it was", x.set(0, 0), 0);
+        for (String text : new String[] {"h05;vw0004;", "h20;vt0019;vt2135;", "km07;h07;", "kn35;h35;"}) {
+            LawOfCorners other = Checks.made(text);
+            due("one can be on HOME: " + text, other.square(other.count(0), 1), 1);
+            due("one can be on no WALL as HOME: " + text, other.turnTo(other.count(0), 1), -3);
+            due("one can be on HOME, still: " + text, other.square(other.count(0), 1), 1);
+        }
+    }
+
+    private static void behindEach() {
+        Checks.sentence("STATEMENTS, each with \";\" behind:");
+        dueTown("f1;b1;", 2);
+        dueTown("f1b1;", -1002);
+        dueTown("f1;b1", -1005);
+        dueTown("f1,b1;", -1002);
+        dueTown("f1; b1;", -1003);
+        dueTown("f1;;b1;", -1003);
+        dueTown(";f1;b1;", -1000);
+        dueTown("kw01", -1004);
+        dueTown("kw01kw02;", -1004);
+        dueTown("vw0102", -1006);
+        dueTown("vw0102kw03;", -1006);
+        dueTown("h01", -1003);
+        dueTown("h01h02;", -1003);
+        dueTown("h01\n", -1003);
     }
 
     private static void waysAtTheEdge() {
@@ -107,7 +140,7 @@ public final class TownBoundaryTest {
     }
 
     private static void firstWrongLetter() {
-        Checks.sentence("FAULT: kind 1 the place of the first letter with which no TOWN can go on");
+        Checks.sentence("FAULT: kind 1 the place of the first letter with which no TOWN can go on .. : -1000 less the place; else");
         String[] forms = {"kw35;", "vc0035;", "h35;", "f9;", "b9;"};
         char[] fitNowhere = {0, 1, ' ', '/', ':', '<', 'K', 'z', 127, 128, 255};
         for (String ahead : new String[] {"", "f1;", "kc00;vm0102;"}) {
@@ -125,7 +158,8 @@ public final class TownBoundaryTest {
     }
 
     private static void everyLetter() {
-        Checks.sentence("\"k\" a letter of a KIND, a SQUARE (2 digits); .. \"f\" FINE (a digit); \"b\" BREATH (a digit)");
+        Checks.sentence("\"k\" a letter of a KIND, a SQUARE (2 digits); \"v\" a letter of a KIND, two SQUARES (2 digits each, .. "
+            + "\"h\" HOME (2 digits); \"f\" FINE (a digit); \"b\" BREATH (a digit)");
         for (int c = 0; c < 256; c++) {
             String one = String.valueOf((char) c);
             boolean digit = c >= '0' && c <= '9';
@@ -148,7 +182,7 @@ public final class TownBoundaryTest {
     }
 
     private static void somethingLacks() {
-        Checks.sentence("(the end, if something lacks)");
+        Checks.sentence("(the end, if something lacks): -1000 less the place");
         for (String form : new String[] {"kw35;", "vc0035;", "h35;", "f9;", "b9;"}) {
             for (int length = 0; length < form.length(); length++) {
                 dueTown(form.substring(0, length), -1000 - length);
@@ -165,7 +199,7 @@ public final class TownBoundaryTest {
     }
 
     private static void numbersOutOfRange() {
-        Checks.sentence("else kind 2 the place of the first letter of the first STATEMENT that .. is not as it must be (a number out of range");
+        Checks.sentence("else kind 2 the place of the first letter of the first STATEMENT that .. is not as it must be (a number out of range, .. -2000 less the place.");
         for (int n = 0; n < 100; n++) {
             String two = "" + n / 10 + n % 10;
             int want = n <= 35 ? 1 : -2000;
@@ -193,7 +227,7 @@ public final class TownBoundaryTest {
         dueTown("vc0035;b0;h36;", -2007);
         dueTown("h35;b0;", -2004);
         dueTown("f1;".repeat(31) + "b0;", -2093);
-        Checks.sentence("FAULT: kind 1 ..; else kind 2");
+        Checks.sentence("FAULT: kind 1 .. ; else kind 2");
         dueTown("b0;x", -1003);
         dueTown("b0;f", -1004);
         dueTown("h36;kw00;f", -1010);
@@ -284,6 +318,52 @@ public final class TownBoundaryTest {
                 due("square(" + s + ", 5)", x.square(s, 5), -2);
             }
         }
+        kinds();
+    }
+
+    private static void kinds() {
+        Checks.sentence("KINDS, whether one can be there, WORDS that are said there, how far INFORMERS hear (rows and columns apart together; -9 there are none), "
+            + "whether a turn is a CORNER: s STREET: one can; 1; -9; it is.");
+        LawOfCorners x = Checks.made("h35;");
+        dueKind(x, 0, 1, 1, -9, 1);
+        Checks.sentence("w WALL under STREET: not; 0.");
+        dueKind(x, 1, 0, 0, -9, 1);
+        Checks.sentence("c CRESCENT under STREET: not a CORNER.");
+        dueKind(x, 2, 1, 1, -9, 0);
+        Checks.sentence("n NICHE under STREET: 0; 1.");
+        dueKind(x, 3, 1, 0, 1, 1);
+        Checks.sentence("t TURRET under WALL: hears 2.");
+        dueKind(x, 4, 0, 0, 2, 1);
+        Checks.sentence("m MARKET under CRESCENT: 2.");
+        dueKind(x, 5, 1, 2, -9, 0);
+        Checks.sentence("Where it is not told as above them.");
+        int[] above = {-1, 0, 0, 0, 1, 2};
+        int[][] notTold = {{}, {3, 4}, {1, 2, 3}, {1, 4}, {1, 2, 4}, {1, 3, 4}};
+        for (int kind = 1; kind < 6; kind++) {
+            for (int what : notTold[kind]) {
+                x.turnTo(17, above[kind]);
+                int due = x.square(17, what);
+                x.turnTo(17, kind);
+                due("square(17, " + what + ") of kind " + kind + ", as above it", x.square(17, what), due);
+            }
+        }
+    }
+
+    private static void dueKind(LawOfCorners x, int kind, int... want) {
+        for (int s : new int[] {0, 14, 34}) {
+            x.turnTo(s, kind);
+            due("square(" + s + ", 0)", x.square(s, 0), kind);
+            for (int what = 1; what <= 4; what++) {
+                due("square(" + s + ", " + what + ") of kind " + kind, x.square(s, what), want[what - 1]);
+            }
+            // What it tells is what walks meet with.
+            due("steps to kind " + kind, x.steps(35, s) >= 0 ? 1 : 0, want[0]);
+            due("words on kind " + kind, x.words(s, 0), want[0] == 0 ? -9 : want[1]);
+            due("heard on itself, kind " + kind, x.heard(s), want[2] < 0 ? 0 : 1);
+            due("count(4) by kind " + kind, x.count(4), want[2] < 0 ? 0 : 1);
+            due("a yard's corner, kind " + kind, x.yards(s), want[0] == 0 ? -9 : want[3] == 1 ? 0 : 1);
+            x.turnTo(s, 0);
+        }
     }
 
     private static void turnTo() {
@@ -347,6 +427,22 @@ public final class TownBoundaryTest {
         due("heard(0) by all but HOME", x.heard(0), 5);
         due("heard(-1)", x.heard(-1), -1);
         due("heard(36)", x.heard(36), -1);
+        heardAtAll();
+    }
+
+    private static void heardAtAll() {
+        Checks.sentence("HEARD by of a SQUARE; whether it is heard by somebody at all.");
+        String[] towns = {"f2;", "kn14;", "kt14;", "kn00;", "h01;kt00;", "kn14;kn15;", "kt14;kn15;", "kt14;kt15;", "kt14;kt32;", "kt14;kw13;"};
+        int[] heard = {0, 5, 13, 3, 6, 8, 13, 18, 20, 13};
+        for (int i = 0; i < towns.length; i++) {
+            LawOfCorners x = Checks.made(towns[i]);
+            int some = 0;
+            for (int s = 0; s < 36; s++) {
+                some += x.heard(s) > 0 ? 1 : 0;
+            }
+            due("SQUARES with heard(..) in " + towns[i], some, heard[i]);
+            due("count(5) in " + towns[i], x.count(5), heard[i]);
+        }
     }
 
     private static void count() {
@@ -446,6 +542,7 @@ public final class TownBoundaryTest {
     public static void main(String[] args) {
         lastCall();
         newObject();
+        behindEach();
         waysAtTheEdge();
         letter();
         atLeastOne();

@@ -35,7 +35,7 @@ public final class WalkBoundaryTest {
     }
 
     private static void firstThatCanNotBe() {
-        Checks.sentence("Of a WALK from HOME by a ROW of WAYS: the first that can not be gone (-9); of all ahead of that: ..");
+        Checks.sentence("Of a WALK from HOME by a ROW of WAYS: the first that can not be gone (-9); of all ahead of that: the SQUARE at the end, words, CORNERS, CUTS, FINES, the longest run of words without a CORNER.");
         LawOfCorners x = Checks.made(Checks.CORRIDOR);
         walks("none", x, by(), -9, 0, 1, 0, 0, 0, 1);
         walks("at 0", x, by(1), 0, 0, 1, 0, 0, 0, 1);
@@ -67,6 +67,30 @@ public final class WalkBoundaryTest {
                 due("walk(1) by " + way + " to a " + kind, x.walk(1), can ? squares[way] : 14);
             }
         }
+    }
+
+    private static void oneBehindTheOther() {
+        Checks.sentence("A WALK: from a SQUARE by WAYS one behind the other.");
+        int[] ways = {0, 2, 3, 3, 1, 0, 1, 1, 3, 2, 2, 2, 2, 2, 0, 0, 0, 1, 1, 3};
+        int[] squares = {14, 8, 9, 15, 21, 20, 14, 13, 12, 18, 19, 20, 21, 22, 23, 17, 11, 5, 4, 3, 9};
+        LawOfCorners x = Checks.made("h14;");
+        for (int n = 0; n <= 20; n++) {
+            due("the SQUARE behind " + n + " WAYS", walked(x, 1, java.util.Arrays.copyOf(ways, n)), squares[n]);
+            due("all can be gone, " + n + " WAYS", x.walk(0), -9);
+        }
+        Checks.sentence("On each SQUARE of it, first and last too, its WORDS are said, at a CORNER none.");
+        int corners = 0;
+        for (int n = 0; n <= 20; n++) {
+            corners += n > 1 && ways[n - 1] != ways[n - 2] ? 1 : 0;
+            due("CORNERS of " + n + " WAYS", walked(x, 3, java.util.Arrays.copyOf(ways, n)), corners);
+            due("words of " + n + " WAYS", x.walk(2), n + 1 - corners);
+        }
+        // 2, 3, 4 with a MARKET on each of the ends and in the middle.
+        x = Checks.made(Checks.CORRIDOR + "h02;km02;");
+        due("the first is a MARKET", walked(x, 2, 2, 2), 4);
+        due("the first is a MARKET, the middle, too", x.turnTo(3, 5) + walked(x, 2, 2, 2), 5);
+        due("all three are", x.turnTo(4, 5) + walked(x, 2, 2, 2), 6);
+        due("on and back over the three", walked(x, 2, 2, 2, 1, 1), 10);
     }
 
     private static void corners() {
@@ -123,6 +147,15 @@ public final class WalkBoundaryTest {
         due("42 words by 9", walked(x, 4, toAndFro(20)), 4);
         x.set(2, 1);
         due("42 words by 1", walked(x, 4, toAndFro(20)), 41);
+        Checks.sentence("BREATH (1 .. 9: 5 at first): words that can be said without a cut.");
+        x = Checks.made("vc0035;");
+        due("5 words at first", walked(x, 4, 2, 2, 2, 2), 0);
+        due("6 words at first", walked(x, 4, 2, 2, 2, 2, 2), 1);
+        for (int breath = 1; breath <= 9; breath++) {
+            x.set(2, breath);
+            due(breath + " words by " + breath, walked(x, 4, java.util.Arrays.copyOf(toAndFro(20), breath - 1)), 0);
+            due(breath + " words and one by " + breath, walked(x, 4, java.util.Arrays.copyOf(toAndFro(20), breath)), 1);
+        }
         Checks.sentence("CUTS: CORNERS of it; and for a run of words .. (0 for no words).");
         for (int breath = 1; breath <= 9; breath++) {
             x = Checks.made("vn0035;b" + breath + ";");
@@ -243,7 +276,21 @@ public final class WalkBoundaryTest {
         due("judge() of 20, the last no way", Checks.withRow(x, last).judge(), -3);
         due("it stays", x.count(7), 20);
         due("it is as it was: no room", x.row(0), -6);
+        judgedFromHome();
         due("clear()", x.clear(), 20);
+    }
+
+    private static void judgedFromHome() {
+        Checks.sentence("A ROW of WAYS (0 .. 3): JUDGED: the first that can not be gone (from HOME); -9.");
+        int[] homes = {0, 5, 14, 30, 35};
+        int[][] rows = {{0, 0, 0}, {1, 1, 1}, {2, 2, 2, 2}, {3, 3, 3, 3}, {2, 3, 1, 0}};
+        int[][] want = {{0, 0, 2, -9, -9}, {0, -9, 2, 0, -9}, {-9, 0, 3, -9, 0}, {-9, -9, 3, 0, 0}, {-9, 0, -9, 1, 0}};
+        for (int i = 0; i < rows.length; i++) {
+            for (int j = 0; j < homes.length; j++) {
+                LawOfCorners x = Checks.made("h" + homes[j] / 10 + homes[j] % 10 + ";");
+                due("judge() of row " + i + " from " + homes[j], Checks.withRow(x, rows[i]).judge(), want[i][j]);
+            }
+        }
     }
 
     private static void row() {
@@ -412,7 +459,7 @@ public final class WalkBoundaryTest {
                 }
             }
         }
-        Checks.sentence("z becomes z times 1664525 and 1013904223 (an int); (z without its sign's bit by 256, cut) modulo m");
+        Checks.sentence("A DRAW below m: z becomes z times 1664525 and 1013904223 (an int); (z without its sign's bit by 256, cut) modulo m");
         // Only 0 and the square below it: of the draws those of 3 and 0 by turns are gone.
         for (int seed : seeds) {
             int[] want = lotsBy(20, seed, "swwwwws" + "w".repeat(29), 0);
@@ -421,7 +468,7 @@ public final class WalkBoundaryTest {
             due("lots(20, " + seed + ", 1) of two squares", x.lots(20, seed, 1), want[1]);
         }
         firstDraws();
-        Checks.sentence("(a WAY; one that can not be gone: stays, no turn)");
+        Checks.sentence("(a WAY; one that can not be gone: stays, no turn): all words said in these; all CORNERS.");
         LawOfCorners x = Checks.made("vw0135;");
         for (int n = 1; n <= 20; n++) {
             due("lots(" + n + ", 5, 0): HOME alone", x.lots(n, 5, 0), n);
@@ -439,6 +486,7 @@ public final class WalkBoundaryTest {
 
     public static void main(String[] args) {
         firstThatCanNotBe();
+        oneBehindTheOther();
         corners();
         cuts();
         finesOfAWalk();
