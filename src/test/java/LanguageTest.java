@@ -1,3 +1,5 @@
+import java.lang.reflect.Field;
+import java.lang.reflect.Modifier;
 import java.nio.file.Files;
 import java.nio.file.Path;
 import java.util.ArrayList;
@@ -11,6 +13,9 @@ public final class LanguageTest {
         + " words unheard talk meet roundOff newNiche enough quiet yards said row judge clear lots image on count";
     private static final String BANNED = "throw throws try catch finally synchronized assert import instanceof"
         + " System Thread Object protected volatile native transient double float var yield";
+    private static final List<Class<?>> STATIC_TYPES = List.of(int.class, long.class, boolean.class, char.class, String.class,
+        int[].class, long[].class, char[].class, byte[].class);
+    private static final List<String> LIBRARY = List.of("Math.max", "Math.min", "Math.abs", "Integer.bitCount");
     private static int wrong = 0;
 
     private static void due(boolean holds, String what) {
@@ -70,12 +75,42 @@ public final class LanguageTest {
         due(classes > 0 && classes <= 12, classes + " classes");
     }
 
+    private static void checkFields(Class<?> of) {
+        int own = 0;
+        for (Field field : of.getDeclaredFields()) {
+            boolean isStatic = Modifier.isStatic(field.getModifiers());
+            own += isStatic ? 0 : 1;
+            due(!isStatic || Modifier.isFinal(field.getModifiers()), "static and not final: " + field);
+            due(!isStatic || STATIC_TYPES.contains(field.getType()), "static, but no constant: " + field);
+        }
+        due(own <= 20, own + " fields in " + of);
+        due(of.getSuperclass() == Object.class, of + " has a class above it");
+    }
+
+    /** What the source calls that it does not write itself stands in rule 4. */
+    private static void checkLibrary(String code) {
+        Matcher m = Pattern.compile("\\b(Math|Integer|Long|String|Arrays|StringBuilder|ArrayList|List)\\.(\\w+)").matcher(code);
+        while (m.find()) {
+            due(LIBRARY.contains(m.group()), "not in the library: " + m.group());
+        }
+        due(!Pattern.compile("\"\\s*\\+|\\+\\s*\"").matcher(code).find(), "texts joined by +");
+        m = Pattern.compile("while \\(([^)]*)\\)").matcher(code);
+        while (m.find()) {
+            due(m.group(1).contains("<") || m.group(1).contains(">"), "a loop whose end can not be seen: " + m.group());
+        }
+    }
+
     public static void main(String[] args) throws Exception {
         String code = withoutComments(Files.readString(Path.of("src/main/java/LawOfCorners.java")));
         due(code.trim().startsWith("public final class LawOfCorners"), "the class is not the first thing");
         checkWords(code);
         checkMethods(code);
         checkClasses(code);
+        checkLibrary(code);
+        checkFields(LawOfCorners.class);
+        for (Class<?> inside : LawOfCorners.class.getDeclaredClasses()) {
+            checkFields(inside);
+        }
         System.out.println(wrong == 0 ? "the language is kept to" : wrong + " faults");
         if (wrong != 0) {
             System.exit(1);
